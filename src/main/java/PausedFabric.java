@@ -36,7 +36,7 @@ public final class PausedFabric {
     private final int room;
     private final int mark;
     private final int[] quantum = {1, 1};
-    private final Port[] ports = new Port[PORTS];
+    private final Port[] ports = makePorts();
     private final Flow[] flows = new Flow[MOST_FLOWS];
     private final Frame[] frames = new Frame[MOST_FRAMES];
     private int flowCount = 0;
@@ -48,7 +48,6 @@ public final class PausedFabric {
         this.xoff = nearest(xoff, 4, 40);
         this.room = nearest(room, 0, 40);
         this.mark = nearest(mark, 1, 40);
-        fillPorts(ports);
     }
 
     public int flow(int from, int to, int priority) {
@@ -183,16 +182,18 @@ public final class PausedFabric {
     }
 
     /** The order, by receiving node and then by sending node, is the order in which frames arrive. */
-    private static void fillPorts(Port[] ports) {
+    private static Port[] makePorts() {
+        Port[] ports = new Port[PORTS];
         int count = 0;
         for (int to = 0; to < NODES; to++) {
             for (int from = 0; from < NODES; from++) {
-                if (areLinked(from, to) && count < ports.length) {
+                if (areLinked(from, to) && count < PORTS) {
                     ports[count] = new Port(from, to);
                     count++;
                 }
             }
         }
+        return ports;
     }
 
     private Port portBetween(int u, int v) {

@@ -9,6 +9,7 @@ public final class PromisesTest {
         promise2Routes();
         promise3Share();
         promise3CreditsStay();
+        promise3CreditIsLost();
         promise4Inject();
         promise5Tick();
         promise5OrderOfArrival();
@@ -86,6 +87,8 @@ public final class PromisesTest {
         due("greatest delay", timeOfReceipt(Integer.MAX_VALUE), 19);
         due("xoff 3 is 4", droppedOfTwenty(3, 0, 1), droppedOfTwenty(4, 0, 1));
         due("xoff 41 is 40", droppedOfTwenty(41, 0, 1), droppedOfTwenty(40, 0, 1));
+        due("xoff 41 asks as 40", firstAsked(41), firstAsked(40));
+        due("xoff 36 asks before", firstAsked(36) > 0 && firstAsked(36) < firstAsked(40), true);
         due("room -1 is 0", droppedOfTwenty(4, -1, 0), droppedOfTwenty(4, 0, 0));
         due("room 41 is 40", droppedOfTwenty(4, 41, 0), droppedOfTwenty(4, 40, 0));
         due("xoff matters", droppedOfTwenty(4, 0, 1) > droppedOfTwenty(12, 0, 1), true);
@@ -98,6 +101,22 @@ public final class PromisesTest {
         due("mark 3, length 4", markedAt(3, 4), true);
         due("mark 41 is 40", firstMarked(41), firstMarked(40));
         due("mark 40 is not 39", firstMarked(40) == firstMarked(39), false);
+    }
+
+    /** The time at which leaf 11, with frames of length 4 from both spines for host 6, first asks spine 12. */
+    private static int firstAsked(int xoff) {
+        PausedFabric x = new PausedFabric(1, xoff, 40, 40);
+        x.flow(0, 6, 0);
+        x.flow(2, 6, 0);
+        injectMany(x, 0, 4, 50);
+        injectMany(x, 1, 4, 50);
+        for (int i = 0; i < 400; i++) {
+            x.tick(1);
+            if (x.asks(12, 11)) {
+                return x.clock();
+            }
+        }
+        return -1;
     }
 
     private static boolean markedAt(int mark, int length) {
@@ -248,6 +267,26 @@ public final class PromisesTest {
         x.tick(3);
         due("credit is used up", x.state(3), 1);
         due("the other priority", x.state(4), 2);
+    }
+
+    /** The credit 7 of priority 1 is lost when it is not ready and priority 0 is. */
+    private static void promise3CreditIsLost() {
+        PausedFabric x = new PausedFabric(1, 40, 40, 40);
+        x.flow(0, 1, 0);
+        x.flow(0, 1, 1);
+        x.share(1, 8);
+        x.inject(1, 1);
+        x.tick(2);
+        x.share(1, 1);
+        x.inject(0, 1);
+        x.tick(2);
+        x.inject(1, 4);
+        x.inject(0, 1);
+        x.tick(1);
+        due("priority 1 has no credit", x.state(2), 1);
+        due("priority 0 has some", x.state(3), 2);
+        x.tick(1);
+        due("priority 1 goes alone", x.state(2), 2);
     }
 
     private static void promise4Inject() {
@@ -579,7 +618,31 @@ public final class PromisesTest {
         due("alpha(-1)", x.alpha(-1), 0);
         due("alpha(2)", x.alpha(2), 0);
         due("alpha(12)", x.alpha(12), 0);
+        promise15ToldAgain();
         promise15Late();
+    }
+
+    /** Two marked frames are received at 9 and 11 and told at 11 and 13; one more is told at 40. */
+    private static void promise15ToldAgain() {
+        PausedFabric x = new PausedFabric(2, 40, 40, 1);
+        x.flow(0, 1, 0);
+        injectMany(x, 0, 2, 2);
+        x.tick(12);
+        due("rate at 12", x.rate(0), 32);
+        x.tick(1);
+        due("rate at 13", x.rate(0), 16);
+        due("alpha at 13", x.alpha(0), 64);
+        x.tick(15);
+        due("rate at 28", x.rate(0), 16);
+        x.tick(1);
+        due("rate at 29", x.rate(0), 24);
+        due("alpha at 29", x.alpha(0), 60);
+        x.inject(0, 2);
+        x.tick(10);
+        due("rate at 39", x.rate(0), 24);
+        x.tick(1);
+        due("rate at 40", x.rate(0), 13);
+        due("alpha at 40", x.alpha(0), 60);
     }
 
     /** A flow that is added at the time 10 has its 16 calm ticks at 26. */
