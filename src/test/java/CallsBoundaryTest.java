@@ -64,6 +64,7 @@ public final class CallsBoundaryTest {
 
     private static void tick() {
         ticks1To20();
+        manyTicksAreAsManySingleOnes();
         tickCountsWhatIsReceived();
         tickDoesNotCountWhatIsDropped();
     }
@@ -582,6 +583,19 @@ public final class CallsBoundaryTest {
             time += n;
             due("clock after tick(" + n + ")", x.clock(), time);
         }
+    }
+
+    /** Promise 5: "Makes n ticks": 20 of them at once, or one by one. */
+    private static void manyTicksAreAsManySingleOnes() {
+        PausedFabric atOnce = busyFabric();
+        PausedFabric oneByOne = busyFabric();
+        int received = 0;
+        for (int i = 0; i < 20; i++) {
+            received += oneByOne.tick(1);
+        }
+        due("received", atOnce.tick(20), received);
+        due("some are received", received > 0, true);
+        compare("20 ticks", atOnce, oneByOne);
     }
 
     /**

@@ -70,6 +70,7 @@ public final class TermsBoundaryTest {
         betweenTheLimitsItStays();
         priority1NeverAsks();
         priority1DoesNotCount();
+        eachSenderIsAskedApart();
     }
 
     private static void pausing() {
@@ -78,6 +79,7 @@ public final class TermsBoundaryTest {
         pauseLetsASendingEnd();
         pauseHoldsASwitchToo();
         pauseTakesTheCredit();
+        creditStaysWhenNoneIsReady();
     }
 
     private static void shares() {
@@ -86,12 +88,14 @@ public final class TermsBoundaryTest {
         quantumAtItsLimits();
         turnPassesAnEmptyQueue();
         creditBecomesZero();
+        sharesAtASwitch();
     }
 
     private static void waiting() {
         waitIsRoundedUp();
         waitAtRate1();
         firstFrameOfTheQueueWaits();
+        anotherFlowInFrontGoesOn();
         noWaitAtASwitch();
         waitKeepsTheRateItBeganWith();
         waitTakesTheCredit();
@@ -717,6 +721,27 @@ public final class TermsBoundaryTest {
         due("asks with 0 and 3", y.asks(0, 8), false);
     }
 
+    /**
+     * "with the end of the sending of a frame of priority 0 that came from u": that of host 0 ends at
+     * 10, that of host 1 at 14.
+     */
+    private static void eachSenderIsAskedApart() {
+        PausedFabric x = new PausedFabric(1, 4, 40, 40);
+        int[] froms = {0, 4, 4, 1};
+        for (int from : froms) {
+            x.flow(from, 2, 0);
+        }
+        x.inject(0, 4);
+        x.inject(3, 4);
+        for (int t = 1; t <= 20; t++) {
+            x.tick(1);
+            due("asks host 0 at " + t, x.asks(0, 8), t >= 6 && t <= 9);
+            due("asks host 1 at " + t, x.asks(1, 8), t >= 6 && t <= 13);
+            due("paused host 0 at " + t, x.paused(0, 8), t >= 7 && t <= 10);
+            due("paused host 1 at " + t, x.paused(1, 8), t >= 7 && t <= 14);
+        }
+    }
+
     /** "PAUSED in a tick when v asked u to pause at the end of the tick DELAY ticks before it". */
     private static void pausedDelayTicksAfter() {
         for (int delay = 1; delay <= 8; delay++) {
@@ -817,6 +842,25 @@ public final class TermsBoundaryTest {
         due("the 4 of priority 0 has lost its credit", x.state(2), 1);
     }
 
+    /** "as long as some priority is ready": while the one is paused and the other is empty, nothing changes. */
+    private static void creditStaysWhenNoneIsReady() {
+        PausedFabric x = withOneFlow(1, 4, 40, 40, 0);
+        x.flow(0, 1, 1);
+        x.share(0, 8);
+        x.inject(0, 4);
+        advance(x, 6);
+        x.share(0, 1);
+        x.inject(0, 4);
+        advance(x, 10);
+        due("paused", x.paused(0, 8), true);
+        due("priority 0 is not sent", x.state(1), 1);
+        x.inject(1, 1);
+        advance(x, 11);
+        due("paused no more", x.paused(0, 8), false);
+        due("the 4 of priority 0 has its credit and its turn", x.state(1), 2);
+        due("the 1 of priority 1 has not", x.state(2), 1);
+    }
+
     /** Which priority does a new host send first, with a frame of this length in each queue? */
     private static int firstPriority(int length0, int length1) {
         PausedFabric x = withOneFlow(1, 40, 40, 40, 0);
@@ -911,6 +955,27 @@ public final class TermsBoundaryTest {
     }
 
     /**
+     * "the same at all ports": leaf 8 gets a frame of each priority in each tick from 3 on, and sends
+     * three of four of priority 1.
+     */
+    private static void sharesAtASwitch() {
+        PausedFabric x = new PausedFabric(1, 40, 40, 40);
+        int[] froms = {0, 4, 4, 1};
+        for (int i = 0; i < 4; i++) {
+            x.flow(froms[i], 2, i == 3 ? 1 : 0);
+        }
+        x.share(1, 3);
+        injectMany(x, 0, 1, 20);
+        injectMany(x, 3, 1, 20);
+        for (int t = 3; t <= 20; t++) {
+            advance(x, t);
+            int sent0 = (t - 2) / 4;
+            due("priority 0 at " + t, x.queued(8, 12, 0), t - 2 - sent0);
+            due("priority 1 at " + t, x.queued(8, 12, 1), sent0);
+        }
+    }
+
+    /**
      * A flow of the rate 48 at the time 27: told at 11, as a frame of length 2 was marked and
      * received at 9, its rate fell to 32, and after 16 calm ticks it rose half way to 64.
      */
@@ -981,6 +1046,19 @@ public final class TermsBoundaryTest {
         due("the second waits no more", x.state(2), 2);
         advance(x, 31);
         due("the one behind it", x.state(3), 2);
+    }
+
+    /** "the flow of the first frame of its queue": that the flow of the second must wait does not matter. */
+    private static void anotherFlowInFrontGoesOn() {
+        PausedFabric x = withRate48();
+        x.flow(0, 1, 0);
+        x.inject(0, 1);
+        x.inject(1, 1);
+        x.inject(0, 1);
+        for (int k = 1; k <= 3; k++) {
+            advance(x, 27 + k);
+            due("frame " + k + " is sent", x.state(k), 2);
+        }
     }
 
     /** "at a host a priority is not ready": at a switch a flow never waits, and it begins no wait there. */
