@@ -6,71 +6,91 @@ import java.util.Arrays;
 import java.util.Set;
 import java.util.TreeSet;
 
-/** The class has the face of the document and no other member that is not private. */
+/** 'The public face': the class has every constant, constructor and method of it, and nothing beside them. */
 public final class FaceTest {
     private static final Set<String> FACE = new TreeSet<>(Arrays.asList(
-        "int NONE",
-        "PausedFabric(int, int, int, int)",
-        "int flow(int, int, int)",
-        "boolean share(int, int)",
-        "int inject(int, int)",
-        "int tick(int)",
-        "int clock()",
-        "int state(int)",
-        "int node(int)",
-        "boolean marked(int)",
-        "int queued(int, int, int)",
-        "int held(int, int, int)",
-        "boolean asks(int, int)",
-        "boolean paused(int, int)",
-        "int rate(int)",
-        "int alpha(int)",
-        "int received(int)",
-        "int dropped(int)",
-        "int last(int)"));
+        "public static final int NONE",
+        "public PausedFabric(int, int, int, int)",
+        "public int flow(int, int, int)",
+        "public boolean share(int, int)",
+        "public int inject(int, int)",
+        "public int tick(int)",
+        "public int clock()",
+        "public int state(int)",
+        "public int node(int)",
+        "public boolean marked(int)",
+        "public int queued(int, int, int)",
+        "public int held(int, int, int)",
+        "public boolean asks(int, int)",
+        "public boolean paused(int, int)",
+        "public int rate(int)",
+        "public int alpha(int)",
+        "public int received(int)",
+        "public int dropped(int)",
+        "public int last(int)"));
+
+    private static int wrong = 0;
 
     public static void main(String[] args) {
         Class<?> type = PausedFabric.class;
-        Set<String> found = new TreeSet<>();
-        boolean clean = Modifier.isPublic(type.getModifiers()) && Modifier.isFinal(type.getModifiers());
-        for (Field field : type.getDeclaredFields()) {
-            int modifiers = field.getModifiers();
-            clean &= Modifier.isFinal(modifiers) || !Modifier.isStatic(modifiers);
-            if (!Modifier.isPrivate(modifiers)) {
-                found.add(field.getType() + " " + field.getName());
-                clean &= Modifier.isPublic(modifiers) && Modifier.isStatic(modifiers);
-            }
+        check("public and final", type.getModifiers() == (Modifier.PUBLIC | Modifier.FINAL));
+        check("no package", type.getPackageName().isEmpty());
+        check("extends nothing", type.getSuperclass() == Object.class && type.getInterfaces().length == 0);
+        check("NONE is -1", PausedFabric.NONE == -1);
+        Set<String> found = membersSeenFromOutside(type);
+        check("the face is " + found + ", due is " + FACE, found.equals(FACE));
+        checkNames(type);
+        for (Class<?> inside : type.getDeclaredClasses()) {
+            int modifiers = inside.getModifiers();
+            check(inside + " is static", Modifier.isStatic(modifiers));
+            check(inside + " is hidden", !Modifier.isPublic(modifiers) && !Modifier.isProtected(modifiers));
         }
-        for (Constructor<?> made : type.getDeclaredConstructors()) {
-            found.add(type.getName() + listed(made.getParameterTypes()));
-            clean &= Modifier.isPublic(made.getModifiers());
-        }
-        clean &= addMethods(type, found);
-        if (!clean || !found.equals(FACE) || PausedFabric.NONE != -1) {
-            System.out.println("the face is " + found + ", due is " + FACE);
+        if (wrong != 0) {
             System.exit(1);
         }
     }
 
-    private static boolean addMethods(Class<?> type, Set<String> found) {
-        boolean clean = true;
+    private static void check(String what, boolean holds) {
+        if (!holds) {
+            wrong++;
+            System.out.println("does not hold: " + what);
+        }
+    }
+
+    private static Set<String> membersSeenFromOutside(Class<?> type) {
+        Set<String> found = new TreeSet<>();
+        for (Field field : type.getDeclaredFields()) {
+            add(found, field.getModifiers(), field.getType() + " " + field.getName());
+        }
+        for (Constructor<?> made : type.getDeclaredConstructors()) {
+            add(found, made.getModifiers(), type.getName() + listed(made.getParameterTypes(), made.getExceptionTypes()));
+        }
+        for (Method method : type.getDeclaredMethods()) {
+            String tail = method.getName() + listed(method.getParameterTypes(), method.getExceptionTypes());
+            add(found, method.getModifiers(), method.getReturnType() + " " + tail);
+        }
+        return found;
+    }
+
+    private static void add(Set<String> found, int modifiers, String member) {
+        if (!Modifier.isPrivate(modifiers)) {
+            found.add((Modifier.toString(modifiers) + " " + member).trim());
+        }
+    }
+
+    private static String listed(Class<?>[] types, Class<?>[] thrown) {
+        String list = Arrays.toString(types).replace('[', '(').replace(']', ')');
+        return thrown.length == 0 ? list : list + " throws " + Arrays.toString(thrown);
+    }
+
+    /** No private method bears the name of a public one. */
+    private static void checkNames(Class<?> type) {
         Set<String> open = new TreeSet<>();
         Set<String> hidden = new TreeSet<>();
         for (Method method : type.getDeclaredMethods()) {
-            int modifiers = method.getModifiers();
-            if (Modifier.isPrivate(modifiers)) {
-                hidden.add(method.getName());
-                continue;
-            }
-            open.add(method.getName());
-            found.add(method.getReturnType() + " " + method.getName() + listed(method.getParameterTypes()));
-            clean &= Modifier.isPublic(modifiers) && !Modifier.isStatic(modifiers);
+            (Modifier.isPrivate(method.getModifiers()) ? hidden : open).add(method.getName());
         }
         hidden.retainAll(open);
-        return clean && hidden.isEmpty();
-    }
-
-    private static String listed(Class<?>[] types) {
-        return Arrays.toString(types).replace('[', '(').replace(']', ')');
+        check("both private and public: " + hidden, hidden.isEmpty());
     }
 }
